@@ -77,6 +77,51 @@ public final class AgainstPlainTest {
             }
         }
 
+        /** A set that keeps its deadlines as often as not: little work, the shorter distance higher. */
+        void addFairSet() {
+            int count = upTo(7) + 1;
+            for (int id = 1; id <= count; id++) {
+                int i = id;
+                int distance = 8 + dice.nextInt(longestDistance);
+                int deadline = Math.max(1, distance * (6 + dice.nextInt(dice.nextBoolean() ? 74 : 6)) / 10);
+                int priority = 10 * (8 - Math.min(7, 8 * distance / (longestDistance + 8))) + id;
+                same("task(" + i + ", " + distance + ", " + deadline + ", " + priority + ")",
+                    () -> bit(x.task(i, distance, deadline, priority)), () -> bit(y.task(i, distance, deadline, priority)));
+                int work = Math.max(1, distance * (50 + dice.nextInt(60)) / 100 / count);
+                int cuts = upTo(8);
+                for (int k = 0; k < 8 && work > 0; k++) {
+                    int length = k == cuts - 1 || k == 7 ? Math.min(100, work) : Math.min(100, upTo(Math.max(1, work / 2)));
+                    work -= length;
+                    same("segment(" + i + ", " + length + ")",
+                        () -> bit(x.segment(i, length)), () -> bit(y.segment(i, length)));
+                }
+            }
+        }
+
+        /** The scenario of an admitted set makes the worst in the kernel. */
+        void playScenario(int id) {
+            if (answer(() -> x.admit()) != 1 || x.about(id, 0) == SegmentKernel.NONE) {
+                return;
+            }
+            x.reset();
+            int own = 0;
+            for (int i = 0; x.scenario(id, i, 0) != SegmentKernel.NONE; i++) {
+                int wait = x.scenario(id, i, 0) - x.now();
+                if (wait > 0) {
+                    x.tick(wait);
+                }
+                int task = x.scenario(id, i, 1);
+                own += bit(task == id);
+                same("arrive(" + task + ") of the scenario of " + id, () -> bit(x.arrive(task)), () -> 1);
+            }
+            x.tick(2000);
+            int critical = own - 1;
+            same("ended(" + id + ", " + critical + ") after its scenario", () -> x.ended(id, critical), () -> x.response(id));
+            same("seen(" + id + ", 2) after its scenario", () -> x.seen(id, 2), () -> x.response(id));
+            x.reset();
+            y.reset();
+        }
+
         void addSegment(int id) {
             int length = dice.nextInt(25) == 0 ? 101 * dice.nextInt(2) : upTo(longestSegment);
             same("segment(" + id + ", " + length + ")", () -> bit(x.segment(id, length)), () -> bit(y.segment(id, length)));
@@ -143,12 +188,23 @@ public final class AgainstPlainTest {
             compareJobs(upTo(8));
         }
 
-        void play() {
+        void playFair() {
+            addFairSet();
+            play();
+        }
+
+        void playWild() {
             int count = upTo(4) + upTo(4);
             for (int k = 0; k < count; k++) {
                 addTask();
             }
+            play();
+        }
+
+        void play() {
             compareAll();
+            playScenario(upTo(8));
+            playScenario(upTo(3));
             if (smallEnoughToTolerate) {
                 same("stretch()", () -> x.stretch(), () -> y.stretch());
                 compareAll();
@@ -174,13 +230,15 @@ public final class AgainstPlainTest {
     }
 
     public static void main(String[] args) {
-        for (int number = 0; number < 120; number++) {
-            new Run(number, 12, 2, true).play();
-            new Run(1000 + number, 40, 5, true).play();
+        for (int number = 0; number < 50; number++) {
+            new Run(number, 12, 2, true).playWild();
+            new Run(1000 + number, 40, 5, true).playWild();
+            new Run(2000 + number, 1000, 100, false).playWild();
         }
-        for (int number = 0; number < 40; number++) {
-            new Run(2000 + number, 120, 8, true).play();
-            new Run(3000 + number, 1000, 100, false).play();
+        for (int number = 0; number < 100; number++) {
+            new Run(3000 + number, 20, 4, true).playFair();
+            new Run(4000 + number, 60, 10, true).playFair();
+            new Run(5000 + number, 700, 60, false).playFair();
         }
         System.out.println(wrong == 0 ? "all answers agree" : wrong + " answers differ");
         if (wrong != 0) {
