@@ -19,7 +19,7 @@ public final class SegmentKernel {
     private static final int TOO_LONG_MARK = 100;
     private static final int FIRST_SEGMENT_ITEM = 10;
     private static final int UNKNOWN = -2;
-    private static final int BEYOND_ALL = Integer.MAX_VALUE;
+    private static final int BEYOND_ALL = 1_000_000_000;
     // Far above the halvings that any range of times or blockings needs.
     private static final int MOST_HALVINGS = 64;
 
@@ -291,7 +291,10 @@ public final class SegmentKernel {
             return ahead;
         }
 
-        /** The last segment grows backwards over those ahead of it: by how many they became fewer. */
+        /**
+         * The last segment grows backwards over those ahead of it: by how many they became fewer.
+         * In an admitted set it never shrinks: the higher tasks bear what it already is.
+         */
         int growLast(int newLast) {
             int before = segmentCount;
             int ahead = work - newLast;
@@ -482,7 +485,7 @@ public final class SegmentKernel {
 
         int stretchTasks() {
             int fewer = 0;
-            int limit = Integer.MAX_VALUE;
+            int limit = BEYOND_ALL;
             for (int rank = 0; rank < tasks.count; rank++) {
                 Task x = tasks.ranked[rank];
                 fewer += x.growLast(Math.min(x.work, limit));

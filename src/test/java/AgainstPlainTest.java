@@ -230,7 +230,7 @@ public final class AgainstPlainTest {
     }
 
     public static void main(String[] args) {
-        for (int number = 0; number < 50; number++) {
+        for (int number = 0; number < 30; number++) {
             new Run(number, 12, 2, true).playWild();
             new Run(1000 + number, 40, 5, true).playWild();
             new Run(2000 + number, 1000, 100, false).playWild();
