@@ -1,6 +1,8 @@
 import java.util.ArrayList;
 import java.util.Comparator;
+import java.util.HashMap;
 import java.util.List;
+import java.util.Map;
 
 /** The document once more, word by word and tick by tick, slow: what SegmentKernel is held against. */
 final class PlainKernel {
@@ -41,6 +43,8 @@ final class PlainKernel {
     }
 
     private final List<Task> tasks = new ArrayList<>();
+    // The same question is asked often; an answer holds until the set changes.
+    private final Map<String, List<Integer>> known = new HashMap<>();
     private int clock;
     private boolean arrived;
     private Job under;
@@ -85,6 +89,7 @@ final class PlainKernel {
         t.priority = priority;
         tasks.add(t);
         tasks.sort(HIGHEST_FIRST);
+        known.clear();
         return true;
     }
 
@@ -94,12 +99,14 @@ final class PlainKernel {
             return false;
         }
         t.segments.add(length);
+        known.clear();
         return true;
     }
 
     void clear() {
         reset();
         tasks.clear();
+        known.clear();
     }
 
     void reset() {
@@ -145,6 +152,14 @@ final class PlainKernel {
 
     /** The RESPONSES of x with a blocking, null if TOO LONG. */
     private List<Integer> responses(Task x, int blocking) {
+        String question = x.id + " with " + blocking;
+        if (!known.containsKey(question)) {
+            known.put(question, runResponses(x, blocking));
+        }
+        return known.get(question);
+    }
+
+    private List<Integer> runResponses(Task x, int blocking) {
         List<List<Job>> queues = new ArrayList<>();
         List<Task> involved = new ArrayList<>();
         for (Task t : tasks) {
@@ -281,6 +296,7 @@ final class PlainKernel {
             int last = Math.min(x.work(), limit);
             before += x.segments.size();
             x.segments = cut(x.segments, x.work() - last, last);
+            known.clear();
             after += x.segments.size();
         }
         return before - after;

@@ -1,71 +1,22 @@
 /** Each promise of the document, its edges and wrong inputs; the answers due were found by hand. */
-public final class PromiseTest {
-    private static final int NONE = SegmentKernel.NONE;
-    private static final int LEAST = Integer.MIN_VALUE;
-    private static final int MOST = Integer.MAX_VALUE;
-    private static int wrong;
-
-    private interface Call {
-        void make();
-    }
-
-    private static void due(String what, int got, int want) {
-        if (got != want) {
-            wrong++;
-            System.out.println(what + " answered " + got + ", due is " + want);
-        }
-    }
-
-    private static void due(String what, boolean got, boolean want) {
-        due(what, got ? 1 : 0, want ? 1 : 0);
-    }
-
-    private static void dueThrow(String what, Class<?> want, Call call) {
-        Class<?> got = null;
-        try {
-            call.make();
-        } catch (RuntimeException e) {
-            got = e.getClass();
-        }
-        if (got != want) {
-            wrong++;
-            System.out.println(what + " threw " + got + ", due is " + want);
-        }
-    }
-
-    /** A task of which the test knows that it is taken. */
-    private static void put(SegmentKernel x, int id, int distance, int deadline, int priority, int... segments) {
-        due("task " + id, x.task(id, distance, deadline, priority), true);
-        for (int length : segments) {
-            due("segment of " + id, x.segment(id, length), true);
-        }
-    }
-
-    private static void dueSegments(String what, SegmentKernel x, int id, int... segments) {
-        due(what + ": how many", x.about(id, 3), segments.length);
-        for (int k = 0; k < segments.length; k++) {
-            due(what + ": segment " + k, x.about(id, 10 + k), segments[k]);
-        }
-        due(what + ": behind the last", x.about(id, 10 + segments.length), NONE);
-    }
-
-    private static SegmentKernel threeTasks() {
-        SegmentKernel x = new SegmentKernel();
+public final class PromiseTest extends Checks {
+    private static Counted threeTasks() {
+        Counted x = new Counted();
         put(x, 1, 10, 10, 30, 2);
         put(x, 2, 14, 14, 20, 2, 3);
         put(x, 3, 40, 60, 10, 4, 3);
         return x;
     }
 
-    private static SegmentKernel twoTasks() {
-        SegmentKernel x = new SegmentKernel();
+    private static Counted twoTasks() {
+        Counted x = new Counted();
         put(x, 1, 5, 5, 9, 2);
         put(x, 2, 7, 7, 5, 1, 1, 2);
         return x;
     }
 
     private static void newObject() {
-        SegmentKernel x = new SegmentKernel();
+        Counted x = new Counted();
         due("new: now", x.now(), 0);
         for (int id = 0; id <= 9; id++) {
             due("new: about", x.about(id, 0), NONE);
@@ -75,14 +26,14 @@ public final class PromiseTest {
         }
         due("new: tick", x.tick(3), 0);
         due("new: now after ticks", x.now(), 3);
-        SegmentKernel y = new SegmentKernel();
+        Counted y = new Counted();
         put(x, 1, 5, 5, 5, 1);
         due("new: apart from others", y.about(1, 0), NONE);
         due("new: own clock", y.now(), 0);
     }
 
     private static void task() {
-        SegmentKernel x = new SegmentKernel();
+        Counted x = new Counted();
         due("task: id 0", x.task(0, 10, 10, 1), false);
         due("task: id 9", x.task(9, 10, 10, 1), false);
         due("task: least id", x.task(LEAST, 10, 10, 1), false);
@@ -125,7 +76,7 @@ public final class PromiseTest {
     }
 
     private static void segment() {
-        SegmentKernel x = new SegmentKernel();
+        Counted x = new Counted();
         due("segment: no task", x.segment(1, 5), false);
         put(x, 1, 100, 100, 1);
         due("segment: 0", x.segment(1, 0), false);
@@ -156,7 +107,7 @@ public final class PromiseTest {
     }
 
     private static void clearAndReset() {
-        SegmentKernel x = twoTasks();
+        Counted x = twoTasks();
         x.arrive(2);
         x.tick(1);
         x.arrive(1);
@@ -195,7 +146,7 @@ public final class PromiseTest {
     }
 
     private static void about() {
-        SegmentKernel x = threeTasks();
+        Counted x = threeTasks();
         int[][] dueItems = {{10, 10, 30, 1, 2, 3}, {14, 14, 20, 2, 5, 3}, {40, 60, 10, 2, 7, 0}};
         for (int id = 1; id <= 3; id++) {
             for (int what = 0; what <= 5; what++) {
@@ -224,7 +175,7 @@ public final class PromiseTest {
     }
 
     private static void admit() {
-        SegmentKernel x = new SegmentKernel();
+        Counted x = new Counted();
         dueThrow("admit: empty", IllegalStateException.class, x::admit);
         put(x, 1, 10, 10, 7);
         dueThrow("admit: no segment", IllegalStateException.class, x::admit);
@@ -235,7 +186,7 @@ public final class PromiseTest {
         x.segment(2, 1);
         due("admit: never an idle tick", x.admit(), -102);
         due("admit: three", threeTasks().admit(), 1);
-        SegmentKernel y = new SegmentKernel();
+        Counted y = new Counted();
         put(y, 3, 10, 4, 9, 2);
         put(y, 5, 50, 6, 3, 1, 3);
         due("admit: within", y.admit(), 1);
@@ -252,7 +203,7 @@ public final class PromiseTest {
     }
 
     private static void response() {
-        SegmentKernel x = threeTasks();
+        Counted x = threeTasks();
         due("response 1", x.response(1), 5);
         due("response 2", x.response(2), 10);
         due("response 3", x.response(3), 16);
@@ -270,19 +221,19 @@ public final class PromiseTest {
 
     /** A busy time of 20000 ticks is not too long, one of 20001 is. */
     private static void longestBusy() {
-        SegmentKernel x = new SegmentKernel();
+        Counted x = new Counted();
         put(x, 1, 200, 200, 9, 79);
         put(x, 2, 73, 584, 8, 44);
         put(x, 3, 1000, 1000, 7, 45);
         due("busy 20000: last job", x.job(2, 273) == NONE, false);
         due("busy 20000: behind it", x.job(2, 274), NONE);
-        SegmentKernel y = new SegmentKernel();
+        Counted y = new Counted();
         put(y, 1, 73, 73, 9, 59);
         put(y, 2, 137, 1000, 8, 26);
         put(y, 3, 1000, 1000, 7, 40);
         dueThrow("busy 20001", ArithmeticException.class, () -> y.response(2));
         due("busy 20001: admit", y.admit(), -1);
-        SegmentKernel z = new SegmentKernel();
+        Counted z = new Counted();
         put(z, 1, 1000, 1000, 9, 100, 100, 100, 100, 100, 100, 100, 100);
         put(z, 2, 1000, 8000, 8, 100, 99);
         put(z, 3, 1000, 8000, 7, 21);
@@ -299,7 +250,7 @@ public final class PromiseTest {
     }
 
     private static void job() {
-        SegmentKernel x = twoTasks();
+        Counted x = twoTasks();
         int[] responses = {6, 7, NONE, NONE};
         for (int k = 0; k < responses.length; k++) {
             due("job " + k, x.job(2, k), responses[k]);
@@ -319,11 +270,11 @@ public final class PromiseTest {
     }
 
     private static void tolerance() {
-        SegmentKernel x = threeTasks();
+        Counted x = threeTasks();
         due("tolerance 1", x.tolerance(1), 8);
         due("tolerance 2", x.tolerance(2), 5);
         due("tolerance 3", x.tolerance(3), 19);
-        SegmentKernel y = new SegmentKernel();
+        Counted y = new Counted();
         put(y, 1, 10, 80, 5, 10);
         due("tolerance: no idle tick bears nothing but 0", y.tolerance(1), 0);
         y.clear();
@@ -343,7 +294,7 @@ public final class PromiseTest {
     }
 
     private static void stretch() {
-        SegmentKernel x = new SegmentKernel();
+        Counted x = new Counted();
         dueThrow("stretch: empty", IllegalStateException.class, x::stretch);
         put(x, 1, 10, 6, 9, 2);
         put(x, 2, 40, 40, 5);
@@ -381,7 +332,7 @@ public final class PromiseTest {
         due("stretch: not admitted", x.task(3, 10, 10, 9) && x.segment(3, 1), true);
         dueThrow("stretch: not admitted", IllegalStateException.class, x::stretch);
         dueSegments("stretch: not admitted", x, 2, 800, 100);
-        SegmentKernel y = threeTasks();
+        Counted y = threeTasks();
         due("stretch: three", y.stretch(), 2);
         dueSegments("stretch: three, 2", y, 2, 5);
         dueSegments("stretch: three, 3", y, 3, 7);
@@ -389,21 +340,13 @@ public final class PromiseTest {
         due("stretch: three, response of 3", y.response(3), 14);
     }
 
-    private static void dueScenario(String what, SegmentKernel x, int id, int... timesAndTasks) {
-        for (int k = 0; k < timesAndTasks.length; k++) {
-            due(what + ": item " + k, x.scenario(id, k / 2, k % 2), timesAndTasks[k]);
-        }
-        due(what + ": behind", x.scenario(id, timesAndTasks.length / 2, 0), NONE);
-        due(what + ": behind", x.scenario(id, timesAndTasks.length / 2, 1), NONE);
-    }
-
     private static void scenario() {
-        SegmentKernel x = threeTasks();
+        Counted x = threeTasks();
         dueScenario("scenario 1", x, 1, 0, 3, 1, 1);
         dueScenario("scenario 2", x, 2, 0, 3, 1, 1, 1, 2);
         dueScenario("scenario 3", x, 3, 0, 1, 0, 2, 0, 3, 10, 1, 14, 2);
         dueScenario("scenario of the second job", twoTasks(), 2, 0, 1, 0, 2, 5, 1, 7, 2, 10, 1);
-        SegmentKernel y = new SegmentKernel();
+        Counted y = new Counted();
         put(y, 1, 20, 20, 9, 1);
         put(y, 2, 50, 50, 8, 3);
         put(y, 3, 50, 50, 7, 2, 4, 1, 4);
@@ -428,7 +371,7 @@ public final class PromiseTest {
     }
 
     private static void arrive() {
-        SegmentKernel x = new SegmentKernel();
+        Counted x = new Counted();
         put(x, 1, 1, 8, 5, 100);
         put(x, 2, 30, 30, 4);
         due("arrive: not ready", x.arrive(1), false);
@@ -464,7 +407,7 @@ public final class PromiseTest {
     }
 
     private static void tick() {
-        SegmentKernel x = new SegmentKernel();
+        Counted x = new Counted();
         int[] others = {LEAST, -1, 0, 2001, MOST};
         for (int n : others) {
             dueThrow("tick(" + n + ")", IllegalArgumentException.class, () -> x.tick(n));
@@ -489,7 +432,7 @@ public final class PromiseTest {
     }
 
     private static void now() {
-        SegmentKernel x = twoTasks();
+        Counted x = twoTasks();
         due("now: 0", x.now(), 0);
         x.tick(7);
         x.tick(1);
@@ -504,7 +447,7 @@ public final class PromiseTest {
     }
 
     private static void ended() {
-        SegmentKernel x = new SegmentKernel();
+        Counted x = new Counted();
         put(x, 3, 1, 1, 1, 1);
         for (int k = 0; k < 202; k++) {
             x.arrive(3);
@@ -533,14 +476,8 @@ public final class PromiseTest {
         due("ended: no job 1", x.ended(3, 1), NONE);
     }
 
-    private static void dueSeen(String what, SegmentKernel x, int id, int... items) {
-        for (int k = 0; k < items.length; k++) {
-            due(what + ": seen(" + id + ", " + k + ")", x.seen(id, k), items[k]);
-        }
-    }
-
     private static void seen() {
-        SegmentKernel x = new SegmentKernel();
+        Counted x = new Counted();
         put(x, 1, 50, 4, 1, 2, 2, 3);
         put(x, 2, 4, 4, 5, 1);
         put(x, 3, 50, 2, 4, 1, 1);
@@ -597,9 +534,6 @@ public final class PromiseTest {
         now();
         ended();
         seen();
-        System.out.println(wrong == 0 ? "all promises hold" : wrong + " answers are not as due");
-        if (wrong != 0) {
-            System.exit(1);
-        }
+        finish("all promises hold");
     }
 }
