@@ -246,6 +246,9 @@ public final class AgainstPlainTest {
             new Run(4000 + number, 60, 10, true).playFair();
             new Run(5000 + number, 700, 60, false).playFair();
         }
+        for (int number = 0; number < 20; number++) {
+            new Run(6000 + number, 300, 60, true).playFair();
+        }
         System.out.println(wrong == 0 ? "all answers agree" : wrong + " answers differ");
         if (wrong != 0) {
             System.exit(1);

@@ -449,6 +449,24 @@ public final class TermsTest extends Checks {
         dueSegments("a LIMIT of 1", x, 2, 1, 1, 1);
     }
 
+    private static void stretchesBeyondHundred() {
+        sentence("LAST becomes the longest that it can be, longer than segment() takes too");
+        Counted x = new Counted();
+        put(x, 1, 1000, 151, 9, 1);
+        put(x, 2, 1000, 1000, 5, 100, 100, 100);
+        due("the LIMIT is 151", x.stretch(), 0);
+        dueSegments("151 of 300", x, 2, 100, 49, 151);
+        due("BLOCKING", x.about(1, 5), 150);
+        due("WORST is the DEADLINE", x.response(1), 151);
+        dueScenario("behind the work ahead", x, 1, 0, 2, 150, 1);
+        due("one more SEGMENT", x.segment(2, 1), true);
+        due("as many", x.stretch(), 0);
+        dueSegments("the 151 is cut in its turn", x, 2, 100, 49, 1, 151);
+        arrives(x, 2);
+        x.tick(151);
+        due("the kernel runs it whole", x.seen(2, 5), 150);
+    }
+
     private static void cutsWhereLastBegins() {
         sentence("what lies ahead of that stays as it was cut, as far as it is left"
             + " (the SEGMENT in which the new LAST begins is cut there)");
@@ -783,6 +801,7 @@ public final class TermsTest extends Checks {
         tolerances();
         stretchesHighest();
         stretchesToLimit();
+        stretchesBeyondHundred();
         cutsWhereLastBegins();
         leastTolerance();
         stretchedAlready();
